@@ -1,0 +1,137 @@
+/** Promises 36 to 40: image, undo, tear, count, status. */
+public final class ImagesTest {
+    private static final Check check = new Check("ImagesTest");
+
+    public static void main(String[] args) {
+        imageAndUndo();
+        latestImage();
+        tear();
+        count();
+        status();
+        check.end();
+    }
+
+    /** All that an image keeps, as one text. */
+    private static String told(TideLoans x) {
+        StringBuilder all = new StringBuilder();
+        for (int what = 0; what < 6; what++) {
+            all.append(x.now(what)).append(' ');
+        }
+        for (int f = 0; f < 4; f++) {
+            all.append(x.on(f, 0)).append(' ');
+        }
+        for (int c = 0; c < 16; c++) {
+            all.append(x.cell(c, 0)).append(' ');
+        }
+        for (int i = 0; i < x.count(0); i++) {
+            for (int what = 0; what < 8; what++) {
+                all.append(x.of(i, what)).append(' ');
+            }
+        }
+        return all.toString();
+    }
+
+    private static void imageAndUndo() {
+        TideLoans x = check.fresh();
+        for (int k = 0; k < 4; k++) {
+            x.thing(k, k);
+        }
+        x.lay(0, 5);
+        x.days(3);
+        x.lay(1, 9);
+        String before = told(x);
+        check.due("image()", x.image(), 1);
+        x.height(4, 9);
+        x.interest(9);
+        x.purse(2, 99);
+        x.set(0, 1, 3);
+        x.set(1, 3, 77);
+        x.turn(2, 5);
+        x.lay(3, 1);
+        x.fetch(1);
+        x.thing(4, 1);
+        x.days(30);
+        x.sheet(0, 8, 2);
+        x.write(0, 1, 6);
+        x.feed(7, 1);
+        check.found(x, "a finding", x.thing(9, 9), Check.BEYOND);
+        check.due("undo()", x.undo(), 4);
+        check.due("all is as it was", told(x).equals(before) ? 1 : 0, 1);
+        check.due("the tape isn't", x.count(1), 1);
+        check.due("the sheets aren't", x.write(0, 1, 6), 6);
+        check.due("the findings aren't", x.status(0), 1);
+        check.due("a new thing again", x.thing(4, 1), 4);
+        check.due("is new", x.of(4, 4) * 100 + x.of(4, 2), 0);
+        x.days(9);
+        check.due("undo() again", x.undo(), 4);
+        check.due("all is as it was again", told(x).equals(before) ? 1 : 0, 1);
+    }
+
+    private static void latestImage() {
+        TideLoans x = check.fresh();
+        check.due("an image of nothing", x.image(), 1);
+        x.thing(0, 0);
+        check.due("undo() to nothing", x.undo(), 0);
+        x.thing(0, 0);
+        x.thing(0, 0);
+        check.due("a later image", x.image(), 1);
+        x.interest(5);
+        check.due("undo() to the latest", x.undo(), 2);
+        check.due("undo() to the latest again", x.undo(), 2);
+        check.due("now(1)", x.now(1), 2);
+    }
+
+    private static void tear() {
+        TideLoans x = check.fresh();
+        check.due("tear() of nothing", x.tear(), 0);
+        x.image();
+        x.image();
+        check.due("tear()", x.tear(), 1);
+        check.due("tear() again", x.tear(), 0);
+        x.thing(0, 0);
+        check.found(x, "undo() of nothing", x.undo(), Check.NONE);
+        check.due("all stays", x.count(0), 1);
+    }
+
+    private static void count() {
+        TideLoans x = check.fresh();
+        x.thing(0, 0);
+        x.thing(0, 0);
+        x.thing(0, 0);
+        x.lay(0, 9);
+        x.lay(1, 0);
+        x.days(1);
+        x.feed(0, 3);
+        x.height(0, 9);
+        check.due("count(0)", x.count(0), 3);
+        check.due("count(1)", x.count(1), 3);
+        check.due("count(2)", x.count(2), 1);
+        check.due("count(3)", x.count(3), 69);
+        check.found(x, "count(4)", x.count(4), Check.BEYOND);
+        check.found(x, "count(-1)", x.count(-1), Check.BEYOND);
+    }
+
+    private static void status() {
+        TideLoans x = check.fresh();
+        x.thing(9, 0);
+        x.write(0, 0, 0);
+        x.sheet(0, 8, -1);
+        x.undo();
+        x.days(0);
+        x.thing(1, 0);
+        x.as(0, 2);
+        x.fetch(0);
+        for (int i = 0; i < 10; i++) {
+            x.thing(0, 0);
+        }
+        int[] want = {2, 1, 1, 1, 1, 1, 1};
+        for (int i = 0; i < 7; i++) {
+            check.due("status(" + i + ")", x.status(i), want[i]);
+        }
+        check.due("status(-1)", x.status(-1), 8);
+        check.due("status(7)", x.status(7), Check.BEYOND);
+        check.due("it is counted", x.status(0), 3);
+        check.due("status(-2)", x.status(-2), Check.BEYOND);
+        check.due("so is that", x.status(-1), 10);
+    }
+}
