@@ -4,6 +4,7 @@ public final class BestTest {
 
     public static void main(String[] args) {
         spot();
+        spotOnASpring();
         delay();
         kind();
         worth();
@@ -50,6 +51,17 @@ public final class BestTest {
         check.found(x, "spot(0, 101) lent", x.spot(0, 101), Check.BEYOND);
     }
 
+    private static void spotOnASpring() {
+        TideLoans x = chairOf100();
+        for (int c = 0; c < 16; c++) {
+            x.height(c, c == 5 ? 8 : 9);
+        }
+        check.due("taken on this very day", x.spot(0, 15), 5);
+        x.days(1);
+        check.due("not before the next spring", x.spot(0, 15), 0);
+        check.due("spot(0, 1)", x.spot(0, 1), 0);
+    }
+
     private static void delay() {
         TideLoans x = chairOf100();
         x.thing(3, 0);
@@ -81,6 +93,7 @@ public final class BestTest {
         TideLoans x = chairOf100();
         check.due("at home all are alike", x.kind(0, 100), 0);
         x.lay(0, 0);
+        check.due("kind(0, 1)", x.kind(0, 1), 0);
         check.due("kind(0, 14)", x.kind(0, 14), 0);
         check.due("kind(0, 15)", x.kind(0, 15), 1);
         check.due("kind(0, 28)", x.kind(0, 28), 1);
@@ -91,14 +104,23 @@ public final class BestTest {
         x.lay(0, 9);
         check.due("only grudges and glass go from 9", x.kind(0, 15), 2);
         check.due("glass is more than a grudge", x.kind(0, 29), 5);
+        x.thing(0, 1);
+        x.lay(1, 0);
+        x.days(10);
+        x.kind(1, 50);
+        x.lay(0, 0);
+        x.days(1);
+        check.due("lent on day 10, too late for a named one", x.kind(0, 17), 0);
+        check.due("lent on day 10, for longer", x.kind(0, 18), 4);
+        x.days(18);
         x.lay(0, 0);
         x.days(10);
-        check.due("lent, it is tried too", x.kind(0, 5), 1);
+        check.due("lent, it is tried too", x.kind(0, 4), 1);
         check.due("lent, for longer", x.kind(0, 100), 4);
         check.due("it is what it was", x.of(0, 0), 0);
         check.found(x, "kind(0, 0)", x.kind(0, 0), Check.BEYOND);
         check.found(x, "kind(0, 101)", x.kind(0, 101), Check.BEYOND);
-        check.found(x, "kind(1, 1)", x.kind(1, 1), Check.BEYOND);
+        check.found(x, "kind(2, 1)", x.kind(2, 1), Check.BEYOND);
         check.found(x, "kind(-1, 1)", x.kind(-1, 1), Check.BEYOND);
     }
 
@@ -156,6 +178,7 @@ public final class BestTest {
         }
         x.interest(0);
         check.due("nothing is asked", x.fewest(2, 40, 0), 0);
+        check.due("nothing is asked of a day", x.fewest(2, 1, 0), 0);
         check.found(x, "nothing is laid", x.fewest(2, 40, 1), Check.NONE);
         for (int i = 0; i < 5; i++) {
             x.lay(i, 0);
@@ -172,6 +195,9 @@ public final class BestTest {
         x.purse(2, 400);
         check.due("with a purse", x.fewest(2, 15, 501), 4);
         check.due("they lie as they lay", x.now(2), 31);
+        x.purse(2, 0);
+        x.set(0, 3, 1);
+        check.due("one that brings 1", x.fewest(2, 15, 351), 13);
         check.found(x, "fewest(4, 1, 0)", x.fewest(4, 1, 0), Check.BEYOND);
         check.found(x, "fewest(-1, 1, 0)", x.fewest(-1, 1, 0), Check.BEYOND);
         check.found(x, "fewest(0, 0, 0)", x.fewest(0, 0, 0), Check.BEYOND);

@@ -9,6 +9,7 @@ public final class DaysTest {
         on();
         taken();
         home();
+        homeAtOnce();
         due();
         check.end();
     }
@@ -139,6 +140,15 @@ public final class DaysTest {
         x.thing(0, 0);
         x.lay(0, 9);
         check.found(x, "home(0) never taken", x.home(0), Check.NONE);
+    }
+
+    private static void homeAtOnce() {
+        TideLoans x = check.fresh();
+        x.thing(0, 0);
+        x.lay(0, 0);
+        x.days(14);
+        check.due("home(0) on the spring", x.home(0), 1);
+        check.due("now(4) with the first one lent", x.now(4), 12);
     }
 
     private static void due() {

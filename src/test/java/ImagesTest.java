@@ -7,6 +7,7 @@ public final class ImagesTest {
         latestImage();
         tear();
         count();
+        fullShore();
         status();
         check.end();
     }
@@ -50,7 +51,8 @@ public final class ImagesTest {
         x.lay(3, 1);
         x.fetch(1);
         x.thing(4, 1);
-        x.days(30);
+        x.lay(4, 3);
+        x.days(2);
         x.sheet(0, 8, 2);
         x.write(0, 1, 6);
         x.feed(7, 1);
@@ -61,7 +63,7 @@ public final class ImagesTest {
         check.due("the sheets aren't", x.write(0, 1, 6), 6);
         check.due("the findings aren't", x.status(0), 1);
         check.due("a new thing again", x.thing(4, 1), 4);
-        check.due("is new", x.of(4, 4) * 100 + x.of(4, 2), 0);
+        check.due("is new", x.of(4, 2) + x.of(4, 4) + x.of(4, 5), 0);
         x.days(9);
         check.due("undo() again", x.undo(), 4);
         check.due("all is as it was again", told(x).equals(before) ? 1 : 0, 1);
@@ -98,17 +100,54 @@ public final class ImagesTest {
         x.thing(0, 0);
         x.thing(0, 0);
         x.thing(0, 0);
+        x.thing(0, 0);
         x.lay(0, 9);
         x.lay(1, 0);
         x.days(1);
         x.feed(0, 3);
         x.height(0, 9);
-        check.due("count(0)", x.count(0), 3);
+        check.due("count(0)", x.count(0), 4);
         check.due("count(1)", x.count(1), 3);
-        check.due("count(2)", x.count(2), 1);
+        check.due("count(2)", x.count(2), 2);
         check.due("count(3)", x.count(3), 69);
         check.found(x, "count(4)", x.count(4), Check.BEYOND);
         check.found(x, "count(-1)", x.count(-1), Check.BEYOND);
+    }
+
+    /** Ten things, the first and the last of which are asked of in every way. */
+    private static void fullShore() {
+        TideLoans x = check.fresh();
+        for (int i = 0; i < 10; i++) {
+            x.thing(0, 0);
+            x.set(i, 3, 100);
+            x.lay(i, 0);
+        }
+        check.due("cell(0, 1)", x.cell(0, 1), 1023);
+        check.due("now(2)", x.now(2), 1023);
+        check.due("now(5)", x.now(5), 1000);
+        check.due("on(0, 15)", x.on(0, 15), 1280);
+        check.due("richest(15)", x.richest(15), 0);
+        check.due("taken(9)", x.taken(9), 1);
+        check.due("home(9)", x.home(9), 15);
+        check.due("spot(9, 15)", x.spot(9, 15), 0);
+        check.due("delay(9, 0, 15)", x.delay(9, 0, 15), 0);
+        check.due("kind(9, 15)", x.kind(9, 15), 1);
+        check.due("worth(9, 15, 1280)", x.worth(9, 15, 1280), 100);
+        check.due("fewest(0, 15, 1280)", x.fewest(0, 15, 1280), 1023);
+        check.due("fewest(0, 15, 1152)", x.fewest(0, 15, 1152), 511);
+        check.due("rate(15, 1280)", x.rate(15, 1280), 2);
+        x.sheet(0, 64, 40);
+        check.due("book(0, 0)", x.book(0, 0), 40);
+        check.due("read(0, 0, 9)", x.read(0, 0, 9), 15);
+        x.image();
+        check.due("days(1)", x.days(1), 0);
+        check.due("now(3)", x.now(3), 1023);
+        check.due("now(4)", x.now(4), 1020);
+        check.due("due()", x.due(), 1023);
+        check.due("days(14)", x.days(14), 1280);
+        check.due("count(2)", x.count(2), 10);
+        check.due("undo()", x.undo(), 10);
+        check.due("status(-1)", x.status(-1), 0);
     }
 
     private static void status() {

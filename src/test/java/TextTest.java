@@ -99,6 +99,14 @@ public final class TextTest {
         fault("interests 5", 0);
         fault("interes 5", 0);
         fault("Interest 5", 0);
+        fault("interestz 5", 0);
+        fault("zinterest 5", 0);
+        fault("jnterest 5", 0);
+        fault("interesu 5", 0);
+        fault("interest 5`", 10);
+        fault("interest 5{", 10);
+        fault("interest 5:", 10);
+        fault("interest 5/", 10);
         fault("5", 0);
         fault("chair", 5);
         fault("chair ", 6);
