@@ -639,7 +639,8 @@ public final class TideLoans {
 
     private static int markOf(int day) {
         int rest = day % TIDE;
-        return MARK_AT_SPRING - Math.min(rest, TIDE - rest);
+        int off = rest < TIDE - rest ? rest : TIDE - rest;
+        return MARK_AT_SPRING - off;
     }
 
     /** The first spring that isn't before a day. */
@@ -1186,6 +1187,7 @@ public final class TideLoans {
         /** Where the token begins, and where what follows it does. */
         int start;
         int next;
+        /** The number that was asked for latest. */
         int number;
 
         void put(byte b) {
@@ -1205,44 +1207,32 @@ public final class TideLoans {
                 next++;
             }
             start = next;
-            if (next >= length) {
-                token = END;
-            } else if (isLetter(next)) {
-                takeWord();
-            } else if (isDigit(next)) {
-                takeNumber();
-            } else {
-                token = bytes[next] == ';' ? SIGN : OTHER;
+            token = next < length ? tokenOf(bytes[next]) : END;
+            if (token == WORD || token == NUMBER) {
+                while (next < length && tokenOf(bytes[next]) == token) {
+                    next++;
+                }
+            } else if (token != END) {
                 next++;
             }
         }
 
-        private void takeWord() {
-            token = WORD;
-            while (isLetter(next)) {
-                next++;
+        private static int tokenOf(byte b) {
+            if (b >= 'a' && b <= 'z') {
+                return WORD;
             }
-        }
-
-        private void takeNumber() {
-            token = NUMBER;
-            number = 0;
-            while (isDigit(next)) {
-                // Held just above the most that may be, so that no row of digits wraps around.
-                number = Math.min(MOST_WORTH + 1, number * 10 + bytes[next] - '0');
-                next++;
+            if (b >= '0' && b <= '9') {
+                return NUMBER;
             }
-        }
-
-        private boolean isLetter(int i) {
-            return i < length && bytes[i] >= 'a' && bytes[i] <= 'z';
-        }
-
-        private boolean isDigit(int i) {
-            return i < length && bytes[i] >= '0' && bytes[i] <= '9';
+            return b == ';' ? SIGN : OTHER;
         }
 
         boolean isNumberTo(int most) {
+            number = 0;
+            for (int i = start; i < next && token == NUMBER; i++) {
+                // Held just above the most that may be, so that no row of digits wraps around.
+                number = Math.min(MOST_WORTH + 1, number * 10 + bytes[i] - '0');
+            }
             return token == NUMBER && number <= most;
         }
 
