@@ -12,6 +12,8 @@ public final class BestTest {
         fewest();
         fewestAtSea();
         rate();
+        theMostThatMayBeAsked();
+        ties();
         check.end();
     }
 
@@ -70,6 +72,10 @@ public final class BestTest {
         check.due("moonless not on day 14", x.delay(1, 0, 60), 1);
         check.due("moonless in 29 days", x.delay(1, 0, 29), 0);
         check.due("moonless in 43 days", x.delay(1, 0, 43), 1);
+        x.lay(1, 0);
+        check.due("laid today, it isn't taken today: it is home till then", x.delay(1, 0, 43), 1);
+        check.due("it lies there all the same", x.taken(1), 1);
+        x.fetch(1);
         x.days(1);
         check.due("a chair for a short while", x.delay(0, 0, 14), 0);
         x.height(8, 8);
@@ -217,6 +223,67 @@ public final class BestTest {
         check.due("one at sea is enough", x.fewest(0, 14, 100), 0);
         check.due("one at sea and one laid", x.fewest(0, 14, 110), 2);
         check.found(x, "not even with both", x.fewest(0, 14, 111), Check.NONE);
+    }
+
+    /** Each number just at its bound is answered, and no finding. */
+    private static void theMostThatMayBeAsked() {
+        TideLoans x = chairOf100();
+        int most = 999999999;
+        check.due("spot(0, 1)", x.spot(0, 1), 0);
+        check.due("spot(0, 100)", x.spot(0, 100), 0);
+        check.due("delay(0, 15, 1)", x.delay(0, 15, 1), 0);
+        check.due("delay(0, 0, 60)", x.delay(0, 0, 60), 0);
+        check.due("kind(0, 1)", x.kind(0, 1), 0);
+        check.due("richest(0)", x.richest(0), 0);
+        check.due("richest(400)", x.richest(400), 0);
+        x.purse(0, most);
+        check.due("worth(0, 1, most)", x.worth(0, 1, most), 0);
+        check.due("worth(0, 40, most)", x.worth(0, 40, most), 0);
+        check.due("fewest(0, 1, most)", x.fewest(0, 1, most), 0);
+        check.due("fewest(0, 40, most)", x.fewest(0, 40, most), 0);
+        check.due("rate(1, 0)", x.rate(1, 0), 0);
+        check.due("rate(100, 0)", x.rate(100, 0), 0);
+        check.due("no finding", x.status(-1), 0);
+        check.found(x, "rate(100, most)", x.rate(100, most), Check.NONE);
+        check.found(x, "rate(1, most)", x.rate(1, most), Check.NONE);
+        x.purse(0, most - 1);
+        check.found(x, "worth(0, 40, most) with 1 less", x.worth(0, 40, most), Check.NONE);
+        check.found(x, "fewest(0, 40, most) with 1 less", x.fewest(0, 40, most), Check.NONE);
+        x.lay(0, 0);
+        check.due("worth 1 fills the purse", x.worth(0, 40, most), 1);
+        check.due("the chair fills the purse", x.fewest(0, 40, most), 1);
+        check.due("a gain of 1 fits", x.rate(40, 1), 0);
+        check.found(x, "a gain of 2 doesn't", x.rate(40, 2), Check.NONE);
+    }
+
+    /** Of several the least: cells, days, kinds and families that bring as much. */
+    private static void ties() {
+        TideLoans x = chairOf100();
+        for (int c = 0; c < 16; c++) {
+            x.height(c, c == 6 || c == 11 ? 4 : 9);
+        }
+        check.due("the lesser of two cells", x.spot(0, 15), 6);
+        x.days(1);
+        x.interest(0);
+        check.due("without interest no day is better", x.delay(0, 6, 14), 0);
+        x.interest(2);
+        x.height(6, 8);
+        x.height(11, 8);
+        check.due("the lesser of two cells at 8", x.spot(0, 28), 6);
+        x.lay(0, 6);
+        check.due("none is back by day 13", x.kind(0, 13), 0);
+        check.due("a grudge is back on day 14", x.kind(0, 14), 2);
+        check.due("a chair isn't before day 28", x.kind(0, 27), 2);
+        check.due("a chair brings more by then", x.kind(0, 28), 0);
+        for (int f = 1; f < 4; f++) {
+            x.purse(f, 999999999);
+        }
+        check.due("the least of three", x.richest(400), 1);
+        x.purse(0, 999999999);
+        check.due("the least of four", x.richest(400), 0);
+        x.purse(0, 999999999 - 100);
+        check.due("one that is as full by then", x.richest(28), 0);
+        check.due("and isn't a day before", x.richest(27), 1);
     }
 
     private static void rate() {

@@ -8,9 +8,13 @@ public final class DaysTest {
         now();
         on();
         taken();
+        takenOnThatDay();
         home();
         homeAtOnce();
+        terms();
+        fullPurses();
         due();
+        dueToday();
         check.end();
     }
 
@@ -116,6 +120,56 @@ public final class DaysTest {
         }
     }
 
+    /** Up to the day on which it is taken it lies there, from each day of the tide and each height. */
+    private static void takenOnThatDay() {
+        for (int from = 1; from <= 14; from++) {
+            for (int k = 0; k < 6; k++) {
+                for (int h = 0; h < 9; h++) {
+                    takenOnThatDay(from, k, h);
+                }
+            }
+        }
+    }
+
+    private static void takenOnThatDay(int from, int kind, int height) {
+        TideLoans x = check.fresh();
+        x.thing(kind, 0);
+        x.days(from);
+        x.lay(0, height);
+        int in = firstTaken(kind, height, from) - from + 1;
+        String told = "kind " + kind + " at " + height + " from day " + from;
+        if (in > 14) {
+            check.found(x, "taken(0) of " + told, x.taken(0), Check.NONE);
+            x.days(400);
+            check.due("of(0, 4) of " + told + " for ever", x.of(0, 4), 1);
+            return;
+        }
+        check.due("taken(0) of " + told, x.taken(0), in);
+        if (in > 1) {
+            x.days(in - 1);
+        }
+        check.due("of(0, 4) the day before of " + told, x.of(0, 4), 1);
+        check.due("of(0, 5) the day before of " + told, x.of(0, 5), 0);
+        check.due("taken(0) then of " + told, x.taken(0), 1);
+        x.days(1);
+        check.due("of(0, 4) that day of " + told, x.of(0, 4), 2);
+        check.due("of(0, 5) that day of " + told, x.of(0, 5), from + in - 1);
+    }
+
+    private static int firstTaken(int kind, int height, int from) {
+        int day = from;
+        while (day < from + 14) {
+            int off = Math.min(day % 14, 14 - day % 14);
+            boolean below = kind == 2 || kind == 5 ? height <= 9 - off : height < 9 - off;
+            boolean today = kind == 1 || kind == 4 ? off > 0 : kind != 5 || off == 0;
+            if (below && today) {
+                return day;
+            }
+            day++;
+        }
+        return day;
+    }
+
     /** In how many days each kind comes home that is laid at the bottom on day 1, and 10 days later. */
     private static void home() {
         int[] laid = {14, 14, 14, 42, 28, 28 + 14};
@@ -149,6 +203,72 @@ public final class DaysTest {
         x.days(14);
         check.due("home(0) on the spring", x.home(0), 1);
         check.due("now(4) with the first one lent", x.now(4), 12);
+    }
+
+    /** Lent for just its TERM on a spring it comes home; for a day less, on the next one. */
+    private static void terms() {
+        int[] terms = {1, 8, 1, 28, 16, 15};
+        for (int k = 0; k < 6; k++) {
+            term(k, 42 - terms[k], 42);
+            term(k, 42 - terms[k] + 1, 56);
+        }
+    }
+
+    private static void term(int kind, int since, int back) {
+        TideLoans x = check.fresh();
+        String told = "kind " + kind + " lent on " + since;
+        x.thing(0, 0);
+        x.days(since);
+        x.lay(0, 0);
+        x.days(1);
+        x.turn(0, kind);
+        check.due(told + " since", x.of(0, 5), since);
+        check.due(told + " home(0)", x.home(0), back - since);
+        int left = back - since - 1;
+        if (left > 0) {
+            x.days(left);
+        }
+        check.due(told + " on the day before", x.of(0, 4), 2);
+        check.due(told + " due()", x.due(), 1);
+        x.days(1);
+        check.due(told + " on that day", x.of(0, 4), 0);
+        check.due(told + " keeps since", x.of(0, 5), since);
+    }
+
+    /** Two that come on one day, of which the first just fills the purse, or all but 1 of it. */
+    private static void fullPurses() {
+        int[] before = {999999999 - 24, 999999999 - 25, 999999999 - 12, 999999999};
+        int[] behind = {999999999, 999999998, 999999999, 999999999};
+        for (int i = 0; i < before.length; i++) {
+            TideLoans x = check.fresh();
+            x.purse(3, before[i]);
+            for (int t = 0; t < 2; t++) {
+                x.thing(0, 3);
+                x.lay(t, 0);
+            }
+            check.due("on(3, 15) from " + before[i], x.on(3, 15), behind[i]);
+            check.due("days(15) from " + before[i], x.days(15), behind[i]);
+            check.due("on(3, 0) from " + before[i], x.on(3, 0), behind[i]);
+            check.due("both are home", x.count(2), 2);
+        }
+    }
+
+    /** On a spring due() tells of this very day, not of the next spring; what is taken on it isn't due. */
+    private static void dueToday() {
+        TideLoans x = check.fresh();
+        x.thing(0, 0);
+        x.thing(0, 0);
+        x.thing(0, 0);
+        check.due("nothing is due of what is home", x.due(), 0);
+        x.days(13);
+        x.lay(0, 0);
+        x.lay(2, 9);
+        check.due("taken today, due tomorrow", x.due(), 1);
+        x.days(1);
+        x.lay(1, 0);
+        check.due("due today, and none that is taken today", x.due(), 1);
+        x.days(1);
+        check.due("due in 13 days", x.due(), 2);
     }
 
     private static void due() {

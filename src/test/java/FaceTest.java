@@ -113,7 +113,7 @@ public final class FaceTest {
             x.lay(i, i);
         }
         x.sheet(0, 64, 40);
-        for (int i = 0; i < 30; i++) {
+        for (int i = 0; i < 25; i++) {
             x.spot(i % 10, 100);
             x.delay(i % 10, 3, 60);
             x.kind(i % 10, 100);

@@ -81,6 +81,13 @@ public final class ImagesTest {
         check.due("undo() to the latest", x.undo(), 2);
         check.due("undo() to the latest again", x.undo(), 2);
         check.due("now(1)", x.now(1), 2);
+        check.due("undo() takes days back", x.days(400) + x.undo() + x.now(0), 2);
+        x.tear();
+        x.interest(6);
+        x.image();
+        x.interest(7);
+        check.due("an image behind tear()", x.undo(), 2);
+        check.due("is the later one", x.now(1), 6);
     }
 
     private static void tear() {
@@ -172,5 +179,16 @@ public final class ImagesTest {
         check.due("it is counted", x.status(0), 3);
         check.due("status(-2)", x.status(-2), Check.BEYOND);
         check.due("so is that", x.status(-1), 10);
+        check.due("asking counts nothing", x.status(-1), 10);
+        x.image();
+        check.due("one more", x.status(7), Check.BEYOND);
+        x.undo();
+        check.due("undo() takes none back", x.status(0), 5);
+        x.tear();
+        check.due("nor does tear()", x.status(-1), 11);
+        check.due("undo() of nothing", x.undo(), Check.NONE);
+        check.due("is one more NONE", x.status(3), 2);
+        check.due("no finding of a fault", x.shore(), -1);
+        check.due("is counted", x.status(-1), 12);
     }
 }

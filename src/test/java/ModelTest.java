@@ -33,7 +33,7 @@ public final class ModelTest {
             }
         }
         while (calls < CALLS) {
-            calls += random.nextInt(25) == 0 ? tell(CALLS - calls) : askAny();
+            calls += random.nextInt(25) == 0 ? tell(CALLS - calls) : askAny(CALLS - calls);
         }
     }
 
@@ -66,7 +66,7 @@ public final class ModelTest {
         return random.nextInt(3) == 0 ? upTo(1, Math.min(most, 30)) : upTo(1, most);
     }
 
-    private int askAny() {
+    private int askAny(int calls) {
         // What lays things and lets few days go comes oftener, so that there is something at sea.
         int r = random.nextInt(60);
         int which = r < 40 ? r : r < 46 ? 10 : r < 50 ? 12 : r < 53 ? 5 : r < 55 ? 7 : r < 57 ? 34 : r == 57 ? 33 : 23;
@@ -98,7 +98,7 @@ public final class ModelTest {
             case 30: return ask(29, upTo(0, 3), upTo(0, 39), 0, 0, 0, random.nextInt(12));
             case 31: return ask(which, upTo(0, 3), upTo(0, 20), upTo(0, 3), upTo(0, 20), upTo(0, 20), 0);
             case 33: return ask(which, upTo(0, 3), upTo(0, 3), 0, 0, 0, 0);
-            case 34: return random.nextInt(3) > 0 ? bookAndRead()
+            case 34: return random.nextInt(3) > 0 && calls >= 3 ? bookAndRead()
                 : ask(which, upTo(0, 3), upTo(0, 3), aThing(), 0, 0, 0);
             case 32: return ask(which, upTo(0, 3), 0, 0, 0, 0, 0);
             case 38: return ask(which, upTo(0, 3), 0, 0, 0, 0, 0);
@@ -126,7 +126,7 @@ public final class ModelTest {
             int at = random.nextInt(text.length());
             text.replace(at, Math.min(text.length(), at + random.nextInt(4)), WORDS[random.nextInt(WORDS.length)]);
         }
-        int done = random.nextInt(4) == 0 ? 0 : ask(26, 0, 0, 0, 0, 0, 0);
+        int done = random.nextInt(4) == 0 || calls < 2 ? 0 : ask(26, 0, 0, 0, 0, 0, 0);
         for (int at = 0; at < text.length() && done < calls - 1; at += 4) {
             int n = Math.min(4, text.length() - at);
             int bytes = random.nextInt(256);

@@ -5,11 +5,16 @@ public final class SheetsTest {
     public static void main(String[] args) {
         sheet();
         write();
+        emptySheet();
+        numbersLikeFindings();
         copy();
+        copyWhole();
         lays();
+        laysAtTheBounds();
         book();
         read();
         readWithAnother();
+        readToTheBounds();
         check.end();
     }
 
@@ -63,6 +68,38 @@ public final class SheetsTest {
         check.found(x, "write(0, 2^31-1, 0)", x.write(0, Integer.MAX_VALUE, 0), Check.BEYOND);
     }
 
+    /** A sheet of no numbers is there all the same, and has none. */
+    private static void emptySheet() {
+        for (int bits : new int[] {8, 16, 64}) {
+            TideLoans x = check.fresh();
+            x.thing(0, 0);
+            check.due("sheet(2, " + bits + ", 0)", x.sheet(2, bits, 0), 0);
+            check.found(x, "write(2, 0, 1)", x.write(2, 0, 1), Check.BEYOND);
+            check.due("copy(2, 0, 2, 0, 0)", x.copy(2, 0, 2, 0, 0), 0);
+            check.found(x, "copy(2, 0, 2, 0, 1)", x.copy(2, 0, 2, 0, 1), Check.BEYOND);
+            check.due("lays(2)", x.lays(2), 0);
+            check.due("book(2, 3)", x.book(2, 3), 0);
+            check.due("read(2, 3, 0)", x.read(2, 3, 0), 96);
+            check.due("sheet(2, " + bits + ", 1)", x.sheet(2, bits, 1), 1);
+            check.due("write(2, 0, 1)", x.write(2, 0, 1), 0);
+            check.due("sheet(2, 0, 0)", x.sheet(2, 0, 0), 0);
+            check.found(x, "write(2, 0, 1) to a missing one", x.write(2, 0, 1), Check.MISSING);
+            check.due("sheet(2, " + bits + ", 1) again", x.sheet(2, bits, 1), 1);
+            check.due("its number is 0", x.write(2, 0, 1), 0);
+        }
+    }
+
+    /** A number that was written may be as low as a finding, and is none. */
+    private static void numbersLikeFindings() {
+        TideLoans x = check.fresh();
+        x.sheet(0, 64, 1);
+        for (long v = -1000000000L; v >= -1000000008L; v--) {
+            x.write(0, 0, v);
+            check.due("the number " + v, x.write(0, 0, 0), v);
+        }
+        check.due("no finding", x.status(-1), 0);
+    }
+
     private static void number(TideLoans x, int s, int n) {
         x.sheet(s, 16, n);
         for (int i = 0; i < n; i++) {
@@ -109,6 +146,24 @@ public final class SheetsTest {
         dueRow(x, 1, 102, 103, 100);
     }
 
+    private static void copyWhole() {
+        TideLoans x = check.fresh();
+        number(x, 0, 40);
+        x.sheet(3, 16, 40);
+        check.due("all 40", x.copy(0, 0, 3, 0, 40), 40);
+        check.due("number 0", x.write(3, 0, 0), 100);
+        check.due("number 39", x.write(3, 39, 0), 139);
+        check.due("the last one to the first", x.copy(0, 39, 3, 0, 1), 1);
+        check.due("number 0 again", x.write(3, 0, 0), 139);
+        check.due("the first one to the last", x.copy(0, 0, 3, 39, 1), 1);
+        check.due("number 39 again", x.write(3, 39, 0), 100);
+        check.due("all onto itself", x.copy(0, 0, 0, 0, 40), 40);
+        check.found(x, "41", x.copy(0, 0, 3, 0, 41), Check.BEYOND);
+        check.found(x, "40 from 1", x.copy(0, 1, 3, 0, 40), Check.BEYOND);
+        check.found(x, "40 to 1", x.copy(0, 0, 3, 1, 40), Check.BEYOND);
+        check.due("it has what it had", x.write(0, 39, 0), 139);
+    }
+
     private static void lays() {
         TideLoans x = check.fresh();
         x.sheet(0, 64, 40);
@@ -133,6 +188,32 @@ public final class SheetsTest {
         check.found(x, "lays(2)", x.lays(2), Check.MISSING);
         check.found(x, "lays(4)", x.lays(4), Check.BEYOND);
         check.found(x, "lays(-1)", x.lays(-1), Check.BEYOND);
+    }
+
+    /** 15, 16 and 17 numbers, for 16 cells; and numbers around 0 to 9, of all widths. */
+    private static void laysAtTheBounds() {
+        for (int bits : new int[] {8, 16, 64}) {
+            for (int n = 15; n <= 17; n++) {
+                TideLoans x = new TideLoans();
+                x.sheet(0, bits, n);
+                check.due("lays of " + n, x.lays(0), Math.min(n, 16));
+                check.due("heights behind " + n, x.count(3), n == 15 ? 5 : 0);
+            }
+            for (long v : new long[] {Long.MIN_VALUE + 10, -1, 0, 1, 9, 10, 127, Long.MAX_VALUE}) {
+                TideLoans x = new TideLoans();
+                x.sheet(0, bits, 1);
+                x.write(0, 0, v);
+                long held = x.write(0, 0, v);
+                boolean fits = held >= 0 && held <= 9;
+                check.due("lays of " + v + " in " + bits, x.lays(0), fits ? 1 : 0);
+                check.due("height of " + v + " in " + bits, x.cell(0, 0), fits ? held : 0);
+            }
+        }
+        TideLoans x = new TideLoans();
+        x.sheet(0, 8, 1);
+        x.write(0, 0, 256 + 9);
+        check.due("256 and 9 in 8 bits", x.lays(0), 1);
+        check.due("is 9", x.cell(0, 0), 9);
     }
 
     private static void book() {
@@ -221,5 +302,24 @@ public final class SheetsTest {
         x.sheet(0, 64, 16);
         x.book(0, 0);
         check.due("a full purse tells nothing", x.read(0, 0, 0), 96);
+    }
+
+    /** A book of bytes wraps around, a purse doesn't: 127 is the most that can be just so. */
+    private static void readToTheBounds() {
+        for (int purse : new int[] {127, 128, 255, 256}) {
+            TideLoans x = check.fresh();
+            x.thing(0, 0);
+            x.purse(0, purse);
+            x.sheet(0, 8, 1);
+            check.due("book of " + purse, x.book(0, 0), 1);
+            check.due("read of " + purse, x.read(0, 0, 0), purse == 127 ? 96 : 0);
+            check.due("the byte of " + purse, x.write(0, 0, 0), (byte) purse);
+        }
+        TideLoans x = check.fresh();
+        x.thing(0, 0);
+        x.sheet(0, 64, 15);
+        check.due("on day 14 nothing is back yet", x.read(0, 0, 0), 96);
+        x.sheet(0, 64, 16);
+        check.due("only those that aren't back in 15 days", x.read(0, 0, 0), 1 + 2 + 0 + 16 + 16 + 16);
     }
 }

@@ -38,6 +38,8 @@ public final class ShoreTest {
         check.found(x, "new of(0, 0)", x.of(0, 0), Check.BEYOND);
         check.due("new tear()", x.tear(), 0);
         check.due("new wipe()", x.wipe(), 0);
+        check.due("new shore()", x.shore(), -1);
+        check.due("a new object isn't an older one", x.thing(0, 0) + new TideLoans().thing(0, 0), 0);
     }
 
     private static void height() {
@@ -94,6 +96,9 @@ public final class ShoreTest {
         }
         check.due("tide(99999, 0)", x.tide(99999, 0), marks[99999 % 14]);
         check.due("tide(99999, 1)", x.tide(99999, 1), 99999 % 28);
+        check.due("tide(99999, 2)", x.tide(99999, 2), 0);
+        check.due("tide(99988, 2)", x.tide(99988, 2), 1);
+        check.due("tide(99999, 3)", x.tide(99999, 3), below[99999 % 14]);
         x.height(0, 9);
         check.due("tide(0, 3) with a cell more at the mark", x.tide(0, 3), 14);
         check.found(x, "tide(-1, 0)", x.tide(-1, 0), Check.BEYOND);

@@ -6,6 +6,8 @@ public final class TextTest {
         feed();
         wipe();
         items();
+        names();
+        bounds();
         whatItemsDo();
         faults();
         elevenThings();
@@ -67,6 +69,40 @@ public final class TextTest {
         check.due("no finding", x.status(-1), 0);
     }
 
+    /** Each name makes a thing of its own kind; so does each family, with the least and the most of all. */
+    private static void names() {
+        String[] names = {"chair", "named", "grudge", "moonless", "twice", "glass"};
+        for (int k = 0; k < 6; k++) {
+            for (int f = 0; f < 4; f++) {
+                TideLoans x = check.fresh();
+                check.due(names[k] + " of " + f, told(x, names[k] + " of " + f), 1);
+                check.due(names[k] + " is of kind", x.of(0, 0), k);
+                check.due(names[k] + " is of family", x.of(0, 1), f);
+                check.due(names[k] + " is at cell 0", x.of(0, 2), 0);
+                check.due(names[k] + " is worth 10", x.of(0, 3), 10);
+                check.due(names[k] + " is home", x.of(0, 4), 0);
+                check.due(names[k] + " lies nowhere", x.cell(0, 1), 0);
+            }
+        }
+    }
+
+    private static void bounds() {
+        TideLoans x = check.fresh();
+        check.due("the most of all", told(x, "twice of 3 worth 9999 at 15;height 15 9;interest 50"), 3);
+        check.due("of(0, 1)", x.of(0, 1), 3);
+        check.due("of(0, 3)", x.of(0, 3), 9999);
+        check.due("cell(15, 1)", x.cell(15, 1), 1);
+        check.due("cell(15, 0)", x.cell(15, 0), 9);
+        check.due("now(1)", x.now(1), 50);
+        check.due("the least of all", told(x, "chair of 0 worth 0 at 0;height 15 0;interest 0"), 3);
+        check.due("of(1, 3)", x.of(1, 3), 0);
+        check.due("cell(0, 1)", x.cell(0, 1), 2);
+        check.due("cell(15, 0) again", x.cell(15, 0), 0);
+        check.due("now(1) again", x.now(1), 0);
+        check.due("ten in one text", told(check.fresh(), "chair of 0" + ";chair of 0".repeat(9)), 10);
+        check.due("eleven in one", told(check.fresh(), "glass of 0" + ";glass of 0".repeat(10)), 11 * -10 - 1);
+    }
+
     private static void whatItemsDo() {
         TideLoans x = check.fresh();
         x.thing(0, 0);
@@ -107,6 +143,38 @@ public final class TextTest {
         fault("interest 5{", 10);
         fault("interest 5:", 10);
         fault("interest 5/", 10);
+        fault("interest{5", 8);
+        fault("interest`5", 8);
+        fault("interest/5", 8);
+        fault("interest:5", 8);
+        fault("interest@5", 8);
+        fault("interest[5", 8);
+        fault("interestZ5", 8);
+        fault("interest 5a", 10);
+        fault("interest" + (char) 0xa0 + "5", 8);
+        fault("interest" + (char) 127 + "5", 8);
+        fault("interest 0051", 9);
+        fault("interest 9999", 9);
+        fault("height 3 4 5", 11);
+        fault("height 34", 7);
+        fault("height 3;4", 8);
+        fault("height 9999 0", 7);
+        fault("height 10000 0", 7);
+        fault("height 0 9999", 9);
+        fault("height of 3", 7);
+        fault("chair of of", 9);
+        fault("chair;", 5);
+        fault("chair of;", 8);
+        fault("chair of 10000", 9);
+        fault("chair of 1 of 2", 11);
+        fault("chair of 1 worth 9999 9", 22);
+        fault("chair of 1 worth 99999", 17);
+        fault("chair of 1 at 3 4", 16);
+        fault("chair of 1 at 10000", 14);
+        fault("chair of 1 height 3 4", 11);
+        fault("chair of 1;worth 3", 11);
+        fault("chair of 1;height 3", 19);
+        fault("chair of 1 ; ?", 13);
         fault("5", 0);
         fault("chair", 5);
         fault("chair ", 6);
@@ -177,9 +245,9 @@ public final class TextTest {
         }
         check.due("a full tape", text.length(), 120);
         check.due("eleven items", told(x, text.toString()), 11);
-        check.due("a row of 120 letters", told(x, "a".repeat(120)), -1);
-        check.due("a row of 120 digits", told(x, "1".repeat(120)), -1);
-        check.due("120 blanks", told(x, " ".repeat(120)), -121);
+        check.due("a row of 120 letters", told(check.fresh(), "a".repeat(120)), -1);
+        check.due("a row of 120 digits", told(check.fresh(), "1".repeat(120)), -1);
+        check.due("120 blanks", told(check.fresh(), " ".repeat(120)), -121);
         check.due("a number up to the end", told(x, "interest " + "0".repeat(111)), 1);
         check.due("interest 0", x.now(1), 0);
     }

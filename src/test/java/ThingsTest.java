@@ -6,6 +6,10 @@ public final class ThingsTest {
         thing();
         of();
         repays();
+        moonlessDay();
+        moonlessOrNot();
+        repaysAtTheBounds();
+        repaysTheMost();
         set();
         turn();
         as();
@@ -81,7 +85,6 @@ public final class ThingsTest {
         x.turn(0, 3);
         check.due("lent on day 15", x.of(0, 5), 15);
         check.due("moonless lent on day 15", x.of(0, 7), 55 + 55 * 7 * 13 / 100);
-        moonlessDay();
     }
 
     private static void moonlessDay() {
@@ -96,6 +99,68 @@ public final class ThingsTest {
         check.due("a chair lent on day 14", x.of(1, 7), 12);
         check.due("they bring", x.days(19), 12);
         check.due("moonless comes home", x.of(0, 4), 0);
+    }
+
+    /** Only MOONLESS ones bring nothing if MOON was 14, not the kinds beside it. */
+    private static void moonlessOrNot() {
+        for (int s : new int[] {0, 13, 14, 15, 27, 28, 41, 42, 43, 70}) {
+            for (int k = 0; k < 6; k++) {
+                lentSince(s, k);
+            }
+        }
+    }
+
+    private static void lentSince(int s, int kind) {
+        TideLoans x = check.fresh();
+        x.thing(0, 0);
+        x.set(0, 3, 100);
+        if (s > 0) {
+            x.days(s);
+        }
+        x.lay(0, 0);
+        x.days(1);
+        x.turn(0, kind);
+        int[] want = {102, 107, 51, s % 28 == 14 ? 0 : 102, 214, 54};
+        check.due("kind " + kind + " lent since " + s, x.of(0, 7), want[kind]);
+        check.due("now(4) of kind " + kind + " lent since " + s, x.now(4), want[kind]);
+    }
+
+    /** No WORTH, no INTEREST, and just below and at 1 of interest. */
+    private static void repaysAtTheBounds() {
+        for (int k = 0; k < 6; k++) {
+            TideLoans x = check.fresh();
+            x.thing(0, 0);
+            x.lay(0, 0);
+            x.days(1);
+            x.turn(0, k);
+            x.set(0, 3, 0);
+            check.due("kind " + k + " of no worth", x.of(0, 7), new int[] {0, 5, 0, 0, 10, 3}[k]);
+            x.set(0, 3, 1);
+            check.due("kind " + k + " of worth 1", x.of(0, 7), new int[] {1, 6, 0, 1, 12, 3}[k]);
+            x.set(0, 3, 49);
+            check.due("kind " + k + " just below 1 of interest", x.of(0, 7), new int[] {49, 54, 24, 49, 108, 27}[k]);
+            x.set(0, 3, 50);
+            check.due("kind " + k + " just 1 of interest", x.of(0, 7), new int[] {51, 56, 25, 51, 112, 28}[k]);
+            x.interest(0);
+            check.due("kind " + k + " without interest", x.of(0, 7), new int[] {50, 55, 25, 50, 110, 28}[k]);
+        }
+    }
+
+    /** The most WORTH and INTEREST, for as long as a thing can be lent, as what brings most. */
+    private static void repaysTheMost() {
+        TideLoans x = check.fresh();
+        x.thing(0, 0);
+        x.set(0, 3, 9999);
+        x.interest(50);
+        x.days(1);
+        x.lay(0, 0);
+        x.days(1);
+        x.turn(0, 3);
+        x.days(40);
+        x.turn(0, 4);
+        int chair = 9999 + 9999 * 50 * 41 / 100;
+        check.due("twice, lent for 41 days", x.of(0, 7), 2 * (chair + 5));
+        check.due("it brings that", x.days(1), 2 * (chair + 5));
     }
 
     private static void set() {
