@@ -8,6 +8,7 @@ public final class ImagesTest {
         tear();
         count();
         fullShore();
+        emptyAgain();
         status();
         check.end();
     }
@@ -155,6 +156,39 @@ public final class ImagesTest {
         check.due("count(2)", x.count(2), 10);
         check.due("undo()", x.undo(), 10);
         check.due("status(-1)", x.status(-1), 0);
+    }
+
+    /** With no things any more, none of those that there were bears on an answer. */
+    private static void emptyAgain() {
+        TideLoans x = check.fresh();
+        x.image();
+        for (int i = 0; i < 10; i++) {
+            x.thing(0, 0);
+            x.lay(i, 0);
+        }
+        x.sheet(0, 64, 40);
+        check.due("fewest(0, 40, 100) of ten", x.fewest(0, 40, 100), 511);
+        check.due("book(0, 0) of ten", x.book(0, 0), 40);
+        check.due("read(0, 0, 9) of ten", x.read(0, 0, 9), 15);
+        x.days(1);
+        check.due("undo()", x.undo(), 0);
+        check.found(x, "fewest(0, 40, 1)", x.fewest(0, 40, 1), Check.NONE);
+        check.due("fewest(0, 40, 0)", x.fewest(0, 40, 0), 0);
+        check.found(x, "rate(100, 1)", x.rate(100, 1), Check.NONE);
+        check.due("due()", x.due(), 0);
+        check.due("on(0, 400)", x.on(0, 400), 0);
+        check.due("richest(400)", x.richest(400), 0);
+        check.due("book(0, 0)", x.book(0, 0), 40);
+        check.due("its last number", x.write(0, 39, 0), 0);
+        check.found(x, "read(0, 0, 0)", x.read(0, 0, 0), Check.BEYOND);
+        check.found(x, "of(0, 0)", x.of(0, 0), Check.BEYOND);
+        check.due("cell(0, 1)", x.cell(0, 1), 0);
+        for (int what = 2; what < 6; what++) {
+            check.due("now(" + what + ")", x.now(what), 0);
+        }
+        check.due("count(2)", x.count(2), 0);
+        check.due("days(400)", x.days(400), 0);
+        check.due("a new one is the first", x.thing(1, 1), 0);
     }
 
     private static void status() {
